@@ -375,7 +375,7 @@ public final class FourCars {
         if (what == 1) {
             return count;
         }
-        for (int number = 0; number < count; number++) {
+        for (int number = 0; number < count && a != b; number++) {
             if (isWorse(a, b, m, number)) {
                 return number;
             }
@@ -555,12 +555,9 @@ public final class FourCars {
 
         void scan(byte[] bytes, int length) {
             count = 0;
-            int i = 0;
-            while (i < length) {
-                if (bytes[i] == ' ' || bytes[i] == '\n') {
-                    i++;
-                } else {
-                    i = scanToken(bytes, i, length);
+            for (int i = 0; i < length; i++) {
+                if (bytes[i] != ' ' && bytes[i] != '\n') {
+                    i = Math.max(i, scanToken(bytes, i, length));
                 }
             }
             put(END, 0, length);
@@ -569,8 +566,9 @@ public final class FourCars {
             value = values[0];
         }
 
+        /** Puts the token that starts there: the place of its last byte. */
         private int scanToken(byte[] bytes, int from, int length) {
-            int to = from;
+            int to = from + 1;
             if (isLetter(bytes[from])) {
                 while (to < length && isLetter(bytes[to])) {
                     to++;
@@ -583,9 +581,8 @@ public final class FourCars {
                 putNumber(bytes, from, to);
             } else {
                 put(signKind(bytes[from]), 0, from);
-                to++;
             }
-            return to;
+            return to - 1;
         }
 
         private static boolean isLetter(byte sign) {
@@ -711,7 +708,7 @@ public final class FourCars {
         private final int[] starts = new int[MOST_LINES + 1];
         private final int[] middles = new int[MOST_LINES];
         private final int[] code = new int[MOST_BYTES];
-        // a comparison needs four at most, and each ( that is open holds two more
+        // a comparison needs four at most, what stands ahead of it two, and each ( that is open two more
         private final int[] stack = new int[2 * MOST_OPEN + 8];
 
         void clear() {
@@ -1402,7 +1399,7 @@ public final class FourCars {
 
         /** Seconds in which nothing could happen but that the cars count go by at once: how many. */
         private int leap(Rule rule, int most) {
-            int quiet = Math.min(most, quietSeconds(rule));
+            int quiet = Math.max(0, Math.min(most, quietSeconds(rule)));
             for (int c = 0; c < tower.cars; c++) {
                 if (!cars.out[c] && cars.state[c] != Cars.IDLE) {
                     cars.left[c] -= quiet;

@@ -21,7 +21,7 @@ public final class AgainstPlainTest {
     }
 
     private int below(int n) {
-        return random.nextInt(n);
+        return random.nextInt(Math.max(n, 1));
     }
 
     private boolean once(int n) {
@@ -113,7 +113,7 @@ public final class AgainstPlainTest {
             s.append(' ').append(below(n)).append(blank()).append(';');
         }
         for (int i = once(3) ? below(once(9) ? 45 : 8) : 0; i > 0; i--) {
-            s.append("skip ").append(below(Math.max(count, 1))).append(' ').append(below(n)).append(';');
+            s.append("skip ").append(below(count)).append(' ').append(below(n)).append(';');
         }
         return s.toString();
     }
@@ -135,12 +135,12 @@ public final class AgainstPlainTest {
     private void tellText() {
         boolean isTower = once(3);
         String text = isTower ? tower() : rule();
-        tell(once(3) ? spoilt(text) : text, once(20) ? below(6) - 1 : isTower ? 3 : below(3));
+        tell(once(2) ? spoilt(text) : text, once(20) ? below(6) - 1 : isTower ? 3 : below(3));
         floors = cars.look(0);
     }
 
     private int number(int n) {
-        return once(25) ? ODD[below(ODD.length)] : below(Math.max(n, 1));
+        return once(25) ? ODD[below(ODD.length)] : below(n);
     }
 
     private void call() {
@@ -167,16 +167,15 @@ public final class AgainstPlainTest {
             int b = number(3);
             due("better(" + r + ", " + b + ")", cars.better(r, b), plain.better(r, b));
         } else if (kind < 29) {
-            if (small || cars.look(2) < 4) {
-                int what = once(2) ? 0 : number(18);
-                due("best(" + what + ")", cars.best(what), plain.best(what));
-            }
+            int what = once(2) ? 0 : number(18);
+            due("best(" + what + ")", cars.best(what), plain.best(what));
         } else if (kind == 29) {
             int b = number(3);
             int m = floors < 5 ? number(4) : 1;
             int what = once(4) ? number(3) : 0;
             due("mornings(" + r + ", " + b + ", " + m + ", " + what + ")", cars.mornings(r, b, m, what), plain.mornings(r, b, m, what));
         } else if (kind < 33) {
+            p = once(4) ? p : someoneWaiting();
             due("fun(" + p + ", " + f + ")", cars.fun(p, f), plain.fun(p, f));
         } else if (kind < 36) {
             callPlaces();
@@ -184,7 +183,7 @@ public final class AgainstPlainTest {
             boolean taken = once(2);
             due("image(" + taken + ")", cars.image(taken), plain.image(taken));
             floors = cars.look(0);
-        } else if (kind == 37 && once(3)) {
+        } else if (kind == 37 && once(2)) {
             tellText();
         } else {
             int what = number(150);
@@ -193,6 +192,43 @@ public final class AgainstPlainTest {
             due("look", cars.look(what), plain.look(what));
             due("sums", cars.sums(what % 6), plain.sums(what % 6));
         }
+    }
+
+    private int someoneWaiting() {
+        int found = 0;
+        for (int p = 0; p < cars.look(2); p++) {
+            if (cars.person(p, 3) == 1 && (cars.person(found, 3) != 1 || once(3))) {
+                found = p;
+            }
+        }
+        return found;
+    }
+
+    /** A new tower with few people, some of whom wait already but are given to none. */
+    private void askBest() {
+        tell(tower(), 3);
+        floors = cars.look(0);
+        tell("never;", 0);
+        due("set", cars.set(0, 0, 0), plain.set(0, 0, 0));
+        for (int i = once(2) ? 1 + below(4) : 0; i > 0; i--) {
+            int home = below(floors);
+            due("set(2)", cars.set(2, i - 1, home), plain.set(2, i - 1, home));
+        }
+        int people = once(12) ? below(8) : 1 + below(small ? 6 : 4);
+        for (int p = 0; p < people; p++) {
+            int second = below(30);
+            int from = below(floors);
+            int to = below(floors);
+            due("one", cars.one(second, from, to), plain.one(second, from, to));
+        }
+        int n = 1 + below(40);
+        if (once(2)) {
+            due("seconds", cars.seconds(n), plain.seconds(n));
+        }
+        for (int what = 9; what < 17; what++) {
+            due("best(" + what + ")", cars.best(what), plain.best(what));
+        }
+        due("best(0)", cars.best(0), plain.best(0));
     }
 
     private void callSet(int c, int f, int r) {
@@ -223,7 +259,9 @@ public final class AgainstPlainTest {
     }
 
     private int go(int calls) {
-        if (!once(10)) {
+        if (once(5)) {
+            askBest();
+        } else if (!once(10)) {
             tell(tower(), 3);
             for (int k = 0; k < 3; k++) {
                 tell(once(3) ? "cost far;" : rule(), k);
