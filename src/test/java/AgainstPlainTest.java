@@ -96,6 +96,11 @@ public final class AgainstPlainTest {
     }
 
     private String rule() {
+        if (once(4)) {
+            // calls that stay with none till a car comes by
+            String fact = FACTS[below(8)];
+            return "never when " + fact + "<=>".charAt(below(3)) + below(4) + ";" + (once(2) ? "cost far;" : "cost given;");
+        }
         StringBuilder s = new StringBuilder();
         for (int i = below(once(15) ? 20 : 5); i > 0; i--) {
             s.append(once(4) ? "never" : "cost " + sum()).append(once(3) ? "" : " when " + condition(0)).append(blank()).append(";");
@@ -154,7 +159,7 @@ public final class AgainstPlainTest {
             int to = number(floors);
             due("one(" + second + ", " + f + ", " + to + ")", cars.one(second, f, to), plain.one(second, f, to));
         } else if (kind < 16) {
-            int n = once(20) ? number(602) : 1 + below(once(4) ? 60 : 12);
+            int n = once(20) ? number(602) : 1 + below(once(3) ? 60 : 12);
             due("seconds(" + n + ")", cars.seconds(n), plain.seconds(n));
         } else if (kind < 22) {
             callSet(c, f, r);

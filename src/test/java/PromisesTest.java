@@ -387,6 +387,27 @@ public final class PromisesTest {
         due("NOW", x.look(3), 618);
         goesLate();
         theTurn();
+        givenLate();
+    }
+
+    private static void givenLate() {
+        FourCars x = tower("floors 9;car 1 9 1 0 0;");
+        tell(x, 0, "never when far>3;");
+        x.set(2, 0, 8);
+        x.one(0, 5, 6);
+        // on its way home it is on floor 2 at 18, and the call is its own from 19 on
+        x.image(true);
+        x.seconds(19);
+        due("still too far", x.person(0, 4), -1);
+        x.image(false);
+        x.seconds(20);
+        due("near enough", x.person(0, 4), 0);
+        FourCars y = tower("floors 9;car 1 1 1 0 3;car 1 1 1 0 0;");
+        tell(y, 0, "never when waits<7;cost far;");
+        y.one(2, 3, 6);
+        y.seconds(30);
+        due("it waited for the RULE alone", y.person(0, 5), 7);
+        due("and rode", y.person(0, 6), 4);
     }
 
     private static void goesLate() {
@@ -493,22 +514,24 @@ public final class PromisesTest {
         x.one(0, 5, 2);
         x.one(0, 3, 8);
         x.one(9, 3, 8);
+        x.one(0, 5, 6);
         due("not there yet", x.cost(1, 0, 0), NO_COST);
         x.seconds(5);
-        // car 0 has one in, is between floors 4 and 6 going up, and was given three more
+        // car 0 has one in, is between floors 5 and 6 going up, and was given four more
         due("far", x.car(0, 0), 5);
         prices(x, "cost far;", 1, 0, 1);
         prices(x, "cost far;", 1, 1, 2);
         prices(x, "cost same;", 1, 0, 1);
         prices(x, "cost same;", 2, 0, 0);
         prices(x, "cost same;", 3, 0, 0);
+        prices(x, "cost same;", 5, 0, 1);
         prices(x, "cost same;", 1, 1, 0);
         prices(x, "cost against;", 2, 0, 1);
         prices(x, "cost against;", 3, 0, 0);
         prices(x, "cost against;", 2, 1, 0);
         prices(x, "cost load;", 1, 0, 1);
         prices(x, "cost load;", 1, 1, 0);
-        prices(x, "cost given;", 1, 0, 3);
+        prices(x, "cost given;", 1, 0, 4);
         prices(x, "cost given;", 1, 1, 0);
         prices(x, "cost idle;", 1, 0, 0);
         prices(x, "cost idle;", 1, 1, 1);
@@ -539,7 +562,7 @@ public final class PromisesTest {
         prices(x, "cost 1 when not (1=2 or not 1=1);cost 2;", 2, 0, 1);
         due("it RIDES", x.cost(0, 0, 2), NO_COST);
         due("it is not there yet", x.cost(4, 0, 2), NO_COST);
-        due("no such one", x.cost(5, 0, 2), NO_COST);
+        due("no such one", x.cost(6, 0, 2), NO_COST);
         due("no such one below", x.cost(-1, 0, 2), NO_COST);
         due("no such CAR", x.cost(1, 2, 2), NO_COST);
         due("no such CAR below", x.cost(1, -1, 2), NO_COST);
@@ -619,8 +642,11 @@ public final class PromisesTest {
         FourCars y = tower("floors 2;car 1 1 1 0 0;");
         y.one(2997, 0, 1);
         due("the last SECOND of 3000", y.thought(0, 2), 3000);
-        y.one(2998, 1, 0);
-        due("one too late", y.thought(0, 2), -1);
+        FourCars z = tower("floors 2;car 1 1 1 0 0;");
+        z.one(2998, 0, 1);
+        due("one SECOND too late", z.thought(0, 2), -1);
+        z.seconds(1);
+        due("now in time", z.thought(0, 2), 3000);
     }
 
     private static void betterOnes() {
@@ -723,6 +749,18 @@ public final class PromisesTest {
         due("no CAR", tower("floors 8;").mornings(0, 1, 2, 1), 56 * 56);
         due("no CAR, none worse", tower("floors 8;").mornings(0, 1, 2, 0), -1);
         due("nine FLOORS", tower("floors 9;car 1 1 1 0 0;").mornings(0, 1, 1, 1), -1);
+        morningNumbers();
+    }
+
+    private static void morningNumbers() {
+        FourCars x = tower("floors 3;car 1 1 1 0 0;");
+        tell(x, 0, "never when floor=1 and up=1;");
+        due("from 1 to 2", x.mornings(0, 1, 1, 0), 3);
+        tell(x, 0, "never when floor=2;");
+        due("from 2 to 0", x.mornings(0, 1, 1, 0), 4);
+        // who goes from 1 to 2 as PEOPLE 1 misses the car that goes up to PEOPLE 0 on floor 2: 14 for 9
+        tell(x, 0, "never when floor=1 and up=1 and given=1;");
+        due("4 * 6 + 3", x.mornings(0, 1, 2, 0), 27);
     }
 
     private static void funOnes() {
@@ -865,10 +903,13 @@ public final class PromisesTest {
         x.one(0, 1, 2);
         x.one(0, 0, 2);
         x.one(50, 0, 2);
+        x.one(50, 0, 2);
+        x.one(60, 0, 2);
+        x.one(0, 1, 2);
         x.set(0, 0, 1);
         x.set(3, 5, 42);
         x.seconds(1);
-        int[] row = {6, 2, 3, 1, 1, 1, 1, -1};
+        int[] row = {6, 2, 6, 1, 1, 2, 1, -1};
         for (int what = 0; what < row.length; what++) {
             due("look(" + what + ")", x.look(what), row[what]);
         }
