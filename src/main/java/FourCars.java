@@ -366,11 +366,10 @@ public final class FourCars {
     }
 
     public int mornings(int a, int b, int m, int what) {
-        int floors = world.tower.floors;
-        if (!isRule(a) || !isRule(b) || m < 1 || m > 2 || what < 0 || what > 1 || floors > MORNING_FLOORS) {
+        if (!isRule(a) || !isRule(b) || m < 1 || m > 2 || what < 0 || what > 1 || !hasMornings()) {
             return NONE;
         }
-        int calls = floors * (floors - 1);
+        int calls = world.tower.floors * (world.tower.floors - 1);
         int count = m == 1 ? calls : calls * calls;
         if (what == 1) {
             return count;
@@ -381,6 +380,11 @@ public final class FourCars {
             }
         }
         return NONE;
+    }
+
+    /** Without floors there is no call that a morning could be made of. */
+    private boolean hasMornings() {
+        return world.tower.floors > 0 && world.tower.floors <= MORNING_FLOORS;
     }
 
     private boolean isWorse(int a, int b, int m, int number) {

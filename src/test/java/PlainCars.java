@@ -733,7 +733,7 @@ final class PlainCars {
     }
 
     int mornings(int a, int b, int m, int what) {
-        if (!rule(a) || !rule(b) || m < 1 || m > 2 || what < 0 || what > 1 || all.floors > 8) {
+        if (!rule(a) || !rule(b) || m < 1 || m > 2 || what < 0 || what > 1 || all.floors < 2 || all.floors > 8) {
             return NONE;
         }
         List<int[]> calls = new ArrayList<>();

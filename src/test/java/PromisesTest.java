@@ -92,6 +92,7 @@ public final class PromisesTest {
         due("better(2, 1)", x.better(2, 1), 1);
         due("best(0)", x.best(0), -1);
         due("mornings(0, 1, 1, 0)", x.mornings(0, 1, 1, 0), -1);
+        due("mornings(0, 0, 1, 1)", x.mornings(0, 0, 1, 1), -1);
         due("fun(0, 0)", x.fun(0, 0), NO_FUN);
         due("places(1, 0)", x.places(1, 0), -1);
         due("zones(1, 0)", x.zones(1, 0), -1);
@@ -750,6 +751,24 @@ public final class PromisesTest {
         due("no CAR, none worse", tower("floors 8;").mornings(0, 1, 2, 0), -1);
         due("nine FLOORS", tower("floors 9;car 1 1 1 0 0;").mornings(0, 1, 1, 1), -1);
         morningNumbers();
+        morningsWithoutFloors();
+    }
+
+    private static void morningsWithoutFloors() {
+        FourCars x = new FourCars();
+        due("new, how many of 1", x.mornings(0, 0, 1, 1), -1);
+        due("new, how many of 2", x.mornings(0, 1, 2, 1), -1);
+        due("new, the first", x.mornings(1, 0, 2, 0), -1);
+        x.image(true);
+        tell(x, 3, "floors 2;");
+        due("the least tower, of 1", x.mornings(0, 0, 1, 1), 2);
+        due("the least tower, of 2", x.mornings(0, 0, 2, 1), 4);
+        tell(x, 3, "");
+        due("an empty tower, of 1", x.mornings(0, 0, 1, 1), -1);
+        due("an empty tower, of 2", x.mornings(0, 0, 2, 1), -1);
+        tell(x, 3, "floors 2;");
+        x.image(false);
+        due("gone back to no tower", x.mornings(0, 0, 1, 1), -1);
     }
 
     private static void morningNumbers() {
