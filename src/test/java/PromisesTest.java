@@ -1,72 +1,5 @@
 /** The promises 1 to 21 one by one: ordinary inputs, the edges that the document names, and wrong inputs. */
-public final class PromisesTest {
-    private static final int NO_COST = -100000000;
-    private static final int NO_FUN = -100000;
-
-    private static int promise = 0;
-    private static int asked = 0;
-    private static int wrong = 0;
-
-    private static void due(String what, int got, int want) {
-        asked++;
-        if (got != want) {
-            wrong++;
-            System.out.println("promise " + promise + ": " + what + " answered " + got + ", due is " + want);
-        }
-    }
-
-    private static void due(String what, boolean got, boolean want) {
-        due(what, got ? 1 : 0, want ? 1 : 0);
-    }
-
-    private static void put(FourCars x, String text) {
-        StringBuilder padded = new StringBuilder(text);
-        while (padded.length() % 20 != 0) {
-            padded.append('?');
-        }
-        for (int i = 0; i < padded.length(); i += 20) {
-            int[] n = new int[5];
-            for (int j = 0; j < 20; j++) {
-                n[j / 4] = n[j / 4] << 8 | padded.charAt(i + j);
-            }
-            x.feed(n[0], n[1], n[2], n[3], n[4]);
-        }
-        x.end(text.length());
-    }
-
-    private static int tell(FourCars x, int k, String text) {
-        put(x, text);
-        return x.text(k);
-    }
-
-    private static FourCars tower(String text) {
-        FourCars x = new FourCars();
-        if (tell(x, 3, text) < 1) {
-            due("the tower " + text, 0, 1);
-        }
-        return x;
-    }
-
-    private static void faulty(int k, String text, int kind, int place) {
-        FourCars x = new FourCars();
-        due("text of " + text, tell(x, k, text), FourCars.NONE);
-        due("fault(0) of " + text, x.fault(0), kind);
-        due("fault(1) of " + text, x.fault(1), place);
-        due("lines behind " + text, x.look(10 + k), 0);
-    }
-
-    private static void fine(int k, String text, int lines) {
-        FourCars x = new FourCars();
-        due("text of " + text, tell(x, k, text), lines);
-        due("fault(0) of " + text, x.fault(0), 0);
-        due("fault(1) of " + text, x.fault(1), FourCars.NONE);
-        due("lines of " + text, x.look(10 + k), lines);
-    }
-
-    private static String times(int n, String text) {
-        return text.repeat(n);
-    }
-
+public final class PromisesTest extends Asking {
     private static void newObject() {
         FourCars x = new FourCars();
         due("NONE", FourCars.NONE, -1);
@@ -948,7 +881,7 @@ public final class PromisesTest {
     }
 
     private static void ask(int number) {
-        promise = number;
+        topic("promise " + number);
         switch (number) {
             case 1 -> newObject();
             case 2 -> feeding();
@@ -978,9 +911,6 @@ public final class PromisesTest {
         for (int number = 1; number <= 21; number++) {
             ask(number);
         }
-        System.out.println(asked + " answers, " + wrong + " not as due");
-        if (wrong != 0) {
-            System.exit(1);
-        }
+        close();
     }
 }
