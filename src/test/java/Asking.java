@@ -177,7 +177,7 @@ abstract class Asking {
         FourCars x = tower("floors 6;car 2 2 1 1 0;car 1 1 2 0 5;skip 0 5;");
         tell(x, 0, "cost far;");
         tell(x, 1, "never when car=0 and idle=0;cost 3;");
-        tell(x, 2, "cost 0-far when up=1;");
+        tell(x, 2, "cost far when up=1;");
         x.set(0, 9, 2);
         x.set(2, 1, 3);
         x.set(3, 4, 7);
