@@ -503,6 +503,20 @@ public final class BoundsOfRidesTest extends Asking {
         }
     }
 
+    private static void theGreatestWait() {
+        sentence("2 the greatest WAIT");
+        for (int longest = 0; longest < 3; longest++) {
+            FourCars x = tower("floors 9;" + times(3, "car 1 1 1 0 0;"));
+            tell(x, 0, "cost given+load;");
+            for (int p = 0; p < 3; p++) {
+                x.one(0, p == longest ? 8 : p, 7);
+            }
+            x.seconds(100);
+            due("the greatest is that of " + longest, x.sums(2), 8);
+            due("its WAIT", x.person(longest, 5), 8);
+        }
+    }
+
     // the Terms' second part: a SECOND
 
     private static void whoComes() {
@@ -577,6 +591,37 @@ public final class BoundsOfRidesTest extends Asking {
         due("the first of three", x.person(1, 4), 1);
         due("the second of three", x.person(4, 4), 1);
         due("the third of three", x.person(6, 4), NONE);
+    }
+
+    private static FourCars onItsWayHome(int speed, String rule) {
+        FourCars x = tower("floors 9;car 1 " + speed + " 1 0 0;");
+        tell(x, 0, rule);
+        x.set(2, 0, 3);
+        return x;
+    }
+
+    /** In whatever SECOND a COST may change, though many are asked for at once. */
+    private static void givenInAnySecond() {
+        sentence("Then all who WAIT and are given to none, in order: each is given to the CAR");
+        FourCars x = onItsWayHome(1, "never when idle=0;");
+        x.one(1, 0, 1);
+        x.seconds(60);
+        // at HOME and IDLE at 3, given at 4, three floors back
+        duePerson(x, "as soon as it is IDLE", 0, 3, 0, 6, 2);
+        FourCars y = onItsWayHome(9, "never when idle=1;");
+        y.one(0, 0, 1);
+        y.seconds(9);
+        duePerson(y, "as soon as it GOES", 0, 1, 0, NONE, NONE);
+        FourCars z = onItsWayHome(9, "never when up=1 and given=0;");
+        z.one(2, 5, 8);
+        z.one(2, 5, 4);
+        z.seconds(3);
+        duePerson(z, "ahead of another one", 0, 1, NONE, NONE, NONE);
+        FourCars w = onItsWayHome(9, "never when up=1 and given=0;");
+        w.one(2, 5, 8);
+        w.one(2, 5, 4);
+        w.seconds(8);
+        duePerson(w, "as soon as another one is", 0, 1, 0, NONE, NONE);
     }
 
     private static void oneSecondLess() {
@@ -834,9 +879,11 @@ public final class BoundsOfRidesTest extends Asking {
         countsOfACar();
         whichLine();
         sumsOfAll();
+        theGreatestWait();
         whoComes();
         whoIsGiven();
         inOrder();
+        givenInAnySecond();
         oneSecondLess();
         ahead();
         theFirstHere();

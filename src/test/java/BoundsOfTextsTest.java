@@ -112,6 +112,8 @@ public final class BoundsOfTextsTest extends Asking {
         fine(3, "floors 4;" + times(391, " "), 1);
         fine(0, times(399, " ") + "\n", 0);
         faulty(0, times(399, " ") + "1", 1, 399);
+        faulty(0, times(396, " ") + "cost", 1, 400);
+        faulty(0, times(391, " ") + "cost 1234", 1, 400);
     }
 
     // promise 3
@@ -131,6 +133,14 @@ public final class BoundsOfTextsTest extends Asking {
         due("end(5)", x.end(5), true);
         x.text(0);
         due("the first five", x.fault(1), 5);
+        put(x, "cost far;");
+        due("end(7)", x.end(7), true);
+        x.text(0);
+        due("a KEYWORD that was cut", x.fault(1), 5);
+        put(x, "cost 12345;");
+        due("end(9)", x.end(9), true);
+        x.text(0);
+        due("a NUMBER that was cut", x.fault(1), 9);
         put(x, "never;");
         due("none of them", x.end(0), true);
         due("feed behind none", x.feed(0, 0, 0, 0, 0), 20);
@@ -479,6 +489,12 @@ public final class BoundsOfTextsTest extends Asking {
         faulty(0, "cost fa r;", 1, 5);
         faulty(0, "cost farload;", 1, 5);
         faulty(0, "costfar;", 1, 0);
+        for (char sign : new char[] {'a', 'z', 'A', 'Z'}) {
+            faulty(0, "cost far" + sign + ";", 1, 5);
+        }
+        for (char sign : new char[] {'@', '[', '`', '{', '_', 233}) {
+            faulty(0, "cost far" + sign + ";", 1, 8);
+        }
         fine(0, "cost far*2when1=1or far=2;", 1);
         faulty(0, "Never;", 1, 0);
         faulty(0, "NEVER;", 1, 0);

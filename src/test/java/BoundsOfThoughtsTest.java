@@ -202,6 +202,18 @@ public final class BoundsOfThoughtsTest extends Asking {
         best(cars + "skip 0 1;skip 1 2;skip 2 1;", none, NONE);
     }
 
+    private static void unlikeCars() {
+        sentence("that with the least OVER added TO THE END");
+        FourCars x = tower("floors 4;car 12 9 1 1 0;car 12 1 1 1 0;car 12 2 1 1 3;");
+        x.one(0, 0, 3);
+        due("the fast one's OVER", x.best(0), 5);
+        due("the fast one", x.best(10), 1);
+        x.one(0, 3, 2);
+        due("and the one that is there", x.best(0), 5 + 4);
+        due("the fast one still", x.best(10), 1);
+        due("the one that is there", x.best(11), 2);
+    }
+
     private static void best(String towerText, int[] cars, int over) {
         FourCars x = tower(towerText);
         x.one(0, 1, 2);
@@ -303,6 +315,20 @@ public final class BoundsOfThoughtsTest extends Asking {
         due("the first of two calls", z.mornings(0, 1, 2, 0), 0);
     }
 
+    private static void firstWorseMorning() {
+        sentence("the first (by number) on which RULE a has more OVER than RULE b");
+        FourCars x = tower("floors 2;car 2 1 1 0 0;");
+        tell(x, 0, "never when floor=1 and waits<9;");
+        tell(x, 1, "never when floor=1 and waits<5;");
+        due("one of two is given later", x.mornings(0, 1, 2, 0), 1);
+        due("and not sooner", x.mornings(1, 0, 2, 0), NONE);
+        FourCars y = tower("floors 2;car 1 1 1 0 0;car 1 9 1 0 0;");
+        tell(y, 0, "cost car when floor=0;cost 1-car;");
+        tell(y, 1, "cost 1-car when floor=0;cost car;");
+        due("the wrong one of two to each", y.mornings(0, 1, 2, 0), 1);
+        due("both to the slow one", y.mornings(1, 0, 2, 0), 0);
+    }
+
     private static String lowSkips() {
         StringBuilder s = new StringBuilder();
         for (int floor = 0; floor < 6; floor++) {
@@ -328,6 +354,7 @@ public final class BoundsOfThoughtsTest extends Asking {
         x.one(900, 3, 0);
         x.seconds(100);
         due("CAR 0 is elsewhere", x.car(0, 0) > 0, true);
+        due("by CAR 0 alone all get there", x.thought(1, 0) != NONE, true);
         int[] later = morningsOf(x);
         for (int i = 0; i < due.length; i++) {
             due("asked anew, " + i, later[i], due[i]);
@@ -411,6 +438,54 @@ public final class BoundsOfThoughtsTest extends Asking {
         other.seconds(1);
         due("the other CAR does not stop", other.fun(0, 4), 3);
         due("nobody is in with it", other.fun(1, 4), 0);
+    }
+
+    private static void funAsATarget() {
+        sentence("TARGETS are the FLOORS of all who RIDE in it, FLOORS told to it for fun");
+        due("ahead on its way down again", two(8, 0).fun(0, 1), 3);
+        due("where who goes down waits", two(6, 2).fun(0, 6), 0);
+        FourCars x = tower("floors 9;car 4 1 3 9 8;");
+        x.one(0, 5, 3);
+        x.one(0, 2, 6);
+        x.seconds(1);
+        due("where who goes up waits", x.fun(0, 2), 0);
+        FourCars y = tower("floors 9;car 4 1 3 9 0;");
+        y.one(0, 3, 5);
+        y.one(60, 5, 6);
+        y.seconds(1);
+        due("the CAR goes down for it", y.fun(0, 1), 4);
+        due("the CAR goes up for it", y.fun(0, 8), 3);
+        sentence("or this FLOOR was told for fun (it is not any more): it STOPS for DOOR");
+        due("once alone", two(7, 1).fun(0, 6), 3);
+    }
+
+    private static void noFunStays() {
+        sentence("(nothing of it stays)");
+        FourCars x = two(6, 7);
+        due("not come by before the end", x.fun(0, 0), 0);
+        x.one(100, 0, 1);
+        FourCars y = two(6, 7);
+        y.one(100, 0, 1);
+        due("thought behind fun", x.thought(0, 0), y.thought(0, 0));
+        FourCars z = tower("floors 4;car 12 1 3 0 0;");
+        tell(z, 0, "never when waits<5;");
+        z.one(0, 0, 2);
+        z.one(0, 0, 3);
+        z.seconds(1);
+        int best = z.best(0);
+        due("fun", z.fun(0, 1), 3);
+        due("best behind fun", z.best(0), best);
+        FourCars w = tower("floors 4;car 12 1 3 0 0;car 12 3 1 0 0;skip 1 1;skip 1 2;");
+        tell(w, 0, "cost car;");
+        tell(w, 1, "cost 9 when floor=0 and given=1;cost car;");
+        tell(w, 2, "never when waits<5;");
+        w.set(0, 0, 2);
+        w.one(0, 0, 3);
+        w.seconds(1);
+        int first = w.mornings(0, 1, 2, 0);
+        due("the first two calls are not it", first < 0 || first > 2, true);
+        due("fun alone", w.fun(0, 2), 0);
+        due("mornings behind fun", w.mornings(0, 1, 2, 0), first);
     }
 
     private static void funWithoutAnEnd() {
@@ -740,12 +815,16 @@ public final class BoundsOfThoughtsTest extends Asking {
         betterOfTwo();
         howManyForBest();
         whichGiving();
+        unlikeCars();
         whatOfBest();
         howManyMornings();
         numbersOfMornings();
+        firstWorseMorning();
         asTold();
         thousand();
         whoHasFun();
+        funAsATarget();
+        noFunStays();
         funWithoutAnEnd();
         placesAsked();
         leastPlaces();
