@@ -113,6 +113,8 @@ public final class BoundsOfTextsTest extends Asking {
         fine(0, times(399, " ") + "\n", 0);
         faulty(0, times(399, " ") + "1", 1, 399);
         faulty(0, times(396, " ") + "cost", 1, 400);
+        faulty(0, times(400, ";"), 1, 0);
+        faulty(3, times(400, "5"), 1, 0);
         faulty(0, times(391, " ") + "cost 1234", 1, 400);
     }
 
@@ -219,6 +221,50 @@ public final class BoundsOfTextsTest extends Asking {
         due("RULES stay", x.look(11), 2);
         due("a TOWER without skip", tell(x, 3, "floors 6;car 2 2 1 1 0;"), 2);
         due("it serves what another one left out", x.car(0, 105), 1);
+        tell(x, 3, "floors 80;" + times(4, "car 1 1 1 0 0;") + "skip 0 0;skip 3 79;");
+        tell(x, 3, "floors 80;" + times(4, "car 1 1 1 0 0;"));
+        due("the first FLOOR of the first CAR", x.car(0, 100), 1);
+        due("the last FLOOR of the last CAR", x.car(3, 179), 1);
+    }
+
+    /** A TOWER told to an object that has done much is as one told to a new one. */
+    private static void nothingOfTheOldTower() {
+        sentence("(3: PEOPLE, HOMES, WEIGHTS go, NOW is 0)");
+        for (int kind = 0; kind < 4; kind++) {
+            FourCars x = tower("floors 9;" + times(4, "car 2 1 1 1 8;"));
+            tell(x, 0, kind < 2 ? "never when waits<40;" : "never when given>2;cost given;");
+            for (int p = 0; p < 9; p++) {
+                x.one(p == 8 ? 500 : p, 7 - p % 3, p % 3);
+                x.set(2, p % 4, p);
+                x.set(3, p, 9 * p);
+            }
+            x.thought(kind, 1);
+            x.seconds(kind == 1 ? 600 : 12);
+            x.set(1, kind, 1);
+            x.thought(0, 1);
+            FourCars y = new FourCars();
+            tell(y, 0, kind < 2 ? "never when waits<40;" : "never when given>2;cost given;");
+            goOnAnew(x, y);
+        }
+    }
+
+    private static void goOnAnew(FourCars x, FourCars y) {
+        String text = "floors 6;car 2 2 1 1 0;car 1 1 2 0 5;skip 0 5;";
+        due("a TOWER anew", tell(x, 3, text), tell(y, 3, text));
+        due("the state", state(x), state(y));
+        for (int p = 0; p < 4; p++) {
+            due("one of PEOPLE", x.one(9 * p, p, 4 - p / 2), y.one(9 * p, p, 4 - p / 2));
+            due("best(0)", x.best(0), y.best(0));
+            due("thought(0, 1)", x.thought(0, 1), y.thought(0, 1));
+            due("SECONDS", x.seconds(5), y.seconds(5));
+            due("OUT", x.set(1, 0, 1), y.set(1, 0, 1));
+            due("right", x.set(1, 0, 0), y.set(1, 0, 0));
+            due("best(0), taken back", x.best(0), y.best(0));
+            due("fun", x.fun(p, 5), y.fun(p, 5));
+            due("places(2, 0)", x.places(2, 0), y.places(2, 0));
+        }
+        due("the state then", state(x), state(y));
+        due("in the end", x.seconds(300), y.seconds(300));
     }
 
     private static void noSuchText() {
@@ -448,6 +494,14 @@ public final class BoundsOfTextsTest extends Asking {
             price("cost 5 when floor<" + n + ";", n > 3 ? 5 : 0);
             price("cost 5 when floor=" + n + ";", n == 3 ? 5 : 0);
             price("cost 5 when floor>" + n + ";", n < 3 ? 5 : 0);
+        }
+        for (String test : new String[] {"floor<4", "floor=3", "floor>2"}) {
+            price("cost 5 when " + test + " and floor=3;", 5);
+            price("cost 5 when floor=3 and " + test + ";", 5);
+            price("cost 5 when not " + test + ";", 0);
+            price("cost 5 when not not " + test + ";", 5);
+            price("cost 5 when " + test + " or floor=9;", 5);
+            price("cost 5 when not (" + test + " and floor=9);", 5);
         }
         price("cost 5 when 256*256*256*128<0;", 5);
         price("cost 5 when 256*256*256*128>256*256*256*128-1;", 0);
@@ -703,6 +757,7 @@ public final class BoundsOfTextsTest extends Asking {
         notSoMany();
         whichText();
         towerAnew();
+        nothingOfTheOldTower();
         noSuchText();
         faultChangesNothing();
         howManyLines();

@@ -322,6 +322,10 @@ public final class BoundsOfThoughtsTest extends Asking {
         tell(x, 1, "never when floor=1 and waits<5;");
         due("one of two is given later", x.mornings(0, 1, 2, 0), 1);
         due("and not sooner", x.mornings(1, 0, 2, 0), NONE);
+        tell(x, 3, "floors 2;car 2 1 1 0 0;car 2 1 1 0 0;");
+        tell(x, 0, "never when floor=1 and waits<9;cost 1-car;");
+        tell(x, 1, "never when floor=1 and waits<5;cost 1-car;");
+        due("though the other one is given alike", x.mornings(0, 1, 2, 0), 1);
         FourCars y = tower("floors 2;car 1 1 1 0 0;car 1 9 1 0 0;");
         tell(y, 0, "cost car when floor=0;cost 1-car;");
         tell(y, 1, "cost 1-car when floor=0;cost car;");
