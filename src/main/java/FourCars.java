@@ -9,6 +9,7 @@ public final class FourCars {
     private static final int NO_COST = NONE - 99999999;
     private static final int NO_FUN = NONE - 99999;
     private static final int NO_END = 999999;
+    private static final int BEYOND_ALL = 0x7fffffff;
 
     private static final int RULES = 3;
     private static final int TOWER_TEXT = 3;
@@ -255,7 +256,7 @@ public final class FourCars {
     }
 
     private int overOf(int rule) {
-        return think(rule) == NONE ? Integer.MAX_VALUE : idea.people.overAdded();
+        return think(rule) == NONE ? BEYOND_ALL : idea.people.overAdded();
     }
 
     public int best(int what) {
@@ -1657,7 +1658,7 @@ public final class FourCars {
         /** The lowest of the best floors behind a floor, with so many points from it on. */
         private int bestNext(int floor, int lowest, int count) {
             int found = lowest;
-            int sum = Integer.MAX_VALUE;
+            int sum = BEYOND_ALL;
             for (int next = lowest; next <= floors - count; next++) {
                 int here = piece(floor, next) + least[(count - 1) * ROW + next];
                 if (here < sum) {

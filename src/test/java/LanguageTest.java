@@ -21,7 +21,8 @@ public final class LanguageTest {
     private static final String[] RULED_OUT = {
         "\\bthrow\\b", "\\btry\\b", "\\bcatch\\b", "\\bsynchronized\\b", "\\bassert\\b", "->", "::", "@",
         "\\bimport\\b", "\\bpackage\\b", "\\bstatic\\s*\\{", "Exact\\b", "\\bSystem\\.(?!arraycopy)", "\\bThread\\b",
-        "\\bString\\.", "\\bObject\\b", "\\bequals\\b", "\\bhashCode\\b", "\\btoString\\b", "[^\\x00-\\x7f]"};
+        "\\bString\\.", "\\b(?:Integer|Long|Math)\\.(?!(?:abs|compare|max|min)\\()", "\\bObject\\b", "\\bequals\\b",
+        "\\bhashCode\\b", "\\btoString\\b", "[^\\x00-\\x7f]"};
     private static final Pattern METHOD = Pattern.compile("^ +(?:[a-z]+ )*(?:int|boolean|void)(?:\\[\\])? (\\w+)\\((.*)\\) \\{$");
 
     private static int wrong = 0;
